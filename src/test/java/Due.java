@@ -1,0 +1,42 @@
+import java.util.function.Supplier;
+
+/** Compares answers with those that are due, and counts the wrong ones. */
+final class Due {
+    private int checked;
+    private int wrong;
+
+    void same(String what, Object got, Object want) {
+        checked++;
+        if (!want.equals(got)) {
+            wrong++;
+            if (wrong <= 40) {
+                System.out.println(what + " answered " + got + ", due is " + want);
+            }
+        }
+    }
+
+    void same(String what, long got, long want) {
+        same(what, Long.valueOf(got), Long.valueOf(want));
+    }
+
+    /** Exactly this exception: one that the machine throws is of another class. */
+    void thrown(String what, Class<? extends RuntimeException> want, Supplier<Object> call) {
+        String got;
+        try {
+            got = "the answer " + call.get();
+        } catch (RuntimeException e) {
+            got = e.getClass().getName();
+        }
+        same(what, got, want.getName());
+    }
+
+    int wrong() {
+        return wrong;
+    }
+
+    /** Ends the test program: with exit code 1 if an answer was wrong. */
+    void end() {
+        System.out.println(checked + " answers looked at, " + wrong + " wrong");
+        System.exit(wrong == 0 && checked > 0 ? 0 : 1);
+    }
+}
