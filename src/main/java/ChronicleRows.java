@@ -760,7 +760,6 @@ public final class ChronicleRows {
             if (sign == NONE) {
                 return false;
             }
-            second = NONE;
             if (sign == '+') {
                 kind = COUPLE_ITEM;
                 reading++;

@@ -30,6 +30,19 @@ final class Due {
         same(what, got, want.getName());
     }
 
+    /** The same answer of both, or exactly the same kind of exception. */
+    void alike(String what, Supplier<Object> call, Supplier<Object> oracle) {
+        same(what, told(call), told(oracle));
+    }
+
+    private static Object told(Supplier<Object> call) {
+        try {
+            return call.get();
+        } catch (RuntimeException e) {
+            return e.getClass();
+        }
+    }
+
     int wrong() {
         return wrong;
     }

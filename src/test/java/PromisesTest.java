@@ -269,6 +269,16 @@ final class PromisesTest {
         DUE.same("untangle(3), without lines", z.untangle(3), 0);
         order("untangle", z, 3, 0, 1, 2);
         DUE.same("untangle(0), an empty row", z.untangle(0), 0);
+        // Each child of a lesser middle than the one before: 9 8 6 4 2 1. Only the last of all orders has no crossing.
+        ChronicleRows falling = withPeople(0, 0, 0, 0, 0, 0);
+        int[][] couples = {{4, 5}, {3, 5}, {2, 4}, {1, 3}, {0, 2}, {0, 1}};
+        for (int couple = 0; couple < 6; couple++) {
+            falling.marry(couples[couple][0], couples[couple][1]);
+            falling.child(couple);
+        }
+        DUE.same("all crossings of six lines", falling.count(3), 15);
+        DUE.same("untangle(1), the last order", falling.untangle(1), 0);
+        order("untangle, the last order", falling, 1, 11, 10, 9, 8, 7, 6);
         for (int wrong : new int[] {-1, 4, FAR, FAR_BELOW}) {
             DUE.thrown("untangle(" + wrong + ")", NO_SUCH, () -> x.untangle(wrong));
         }

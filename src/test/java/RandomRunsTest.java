@@ -16,12 +16,12 @@ final class RandomRunsTest {
     private final int run;
     private final ChronicleRows program = new ChronicleRows();
     private final Oracle oracle = new Oracle();
-    private long seed;
+    private final Draw draw;
     private int calls;
 
     private RandomRunsTest(int run) {
         this.run = run;
-        this.seed = 88172645463325252L + 7919L * run;
+        this.draw = new Draw(run);
     }
 
     public static void main(String[] args) {
@@ -31,46 +31,33 @@ final class RandomRunsTest {
         DUE.end();
     }
 
-    private int below(int bound) {
-        seed = seed * 6364136223846793005L + 1442695040888963407L;
-        return (int) ((seed >>> 33) % bound);
-    }
-
     /** Mostly 0 to bound - 1; now and then a number beside these, or far off. */
     private int number(int bound) {
-        int kind = below(60);
+        int kind = draw.below(60);
         if (kind == 0) {
-            return FAR[below(FAR.length)];
+            return FAR[draw.below(FAR.length)];
         }
         if (kind == 1) {
             return -1;
         }
-        return kind == 2 || bound < 1 ? Math.max(bound, 0) : below(bound);
+        return kind == 2 || bound < 1 ? Math.max(bound, 0) : draw.below(bound);
     }
 
     private void same(String what, Supplier<Object> ofProgram, Supplier<Object> ofOracle) {
         calls++;
-        DUE.same("run " + run + ", call " + calls + ": " + what, told(ofProgram), told(ofOracle));
-    }
-
-    private static Object told(Supplier<Object> call) {
-        try {
-            return call.get();
-        } catch (RuntimeException e) {
-            return e.getClass();
-        }
+        DUE.alike("run " + run + ", call " + calls + ": " + what, ofProgram, ofOracle);
     }
 
     private void go() {
         // Runs of unlike kinds: of slow growth and fast, with many exchanges or few.
         int growth = 10 + 10 * (run % 5);
         while (calls < CALLS && DUE.wrong() == 0) {
-            int draw = below(100);
-            if (draw < growth) {
+            int kind = draw.below(100);
+            if (kind < growth) {
                 grow();
-            } else if (draw < 75) {
+            } else if (kind < 75) {
                 change();
-            } else if (draw < 97) {
+            } else if (kind < 97) {
                 look();
             } else {
                 same("digest", program::digest, oracle::digest);
@@ -79,7 +66,7 @@ final class RandomRunsTest {
     }
 
     private void grow() {
-        int kind = below(10);
+        int kind = draw.below(10);
         if (kind < 3) {
             int row = number(run % 3 == 0 ? 4 : 2);
             same("person(" + row + ")", () -> program.person(row), () -> oracle.person(row));
@@ -94,7 +81,7 @@ final class RandomRunsTest {
     }
 
     private void change() {
-        int kind = below(12);
+        int kind = draw.below(12);
         if (kind < 3) {
             int row = number(4);
             int place = number(5);
@@ -108,11 +95,11 @@ final class RandomRunsTest {
         } else if (kind == 5) {
             int slot = number(2);
             same("keep(" + slot + ")", () -> program.keep(slot), () -> oracle.keep(slot));
-        } else if (kind == 6 && below(3) == 0) {
+        } else if (kind == 6 && draw.below(3) == 0) {
             int slot = number(2);
             same("goBack(" + slot + ")", () -> program.goBack(slot), () -> oracle.goBack(slot));
-        } else if (kind == 7 && below(3) == 0) {
-            for (int times = below(8); times >= 0; times--) {
+        } else if (kind == 7 && draw.below(3) == 0) {
+            for (int times = draw.below(8); times >= 0; times--) {
                 same("undo()", program::undo, oracle::undo);
             }
         } else {
@@ -121,7 +108,7 @@ final class RandomRunsTest {
     }
 
     private void tell() {
-        int kind = below(8);
+        int kind = draw.below(8);
         if (kind == 0) {
             same("clearBuffer()", program::clearBuffer, oracle::clearBuffer);
         } else if (kind == 1) {
@@ -131,12 +118,12 @@ final class RandomRunsTest {
             int code = number(140);
             same("append(" + code + ")", () -> program.append(code), () -> oracle.append(code));
         } else {
-            String piece = PIECES[below(PIECES.length)];
+            String piece = PIECES[draw.below(PIECES.length)];
             for (int index = 0; index < piece.length(); index++) {
                 int code = piece.charAt(index);
                 same("append(" + code + ")", () -> program.append(code), () -> oracle.append(code));
             }
-            if (kind < 6 && below(2) == 0) {
+            if (kind < 6 && draw.below(2) == 0) {
                 same("append(;)", () -> program.append(';'), () -> oracle.append(';'));
             }
             same("firstError()", program::firstError, oracle::firstError);
@@ -152,7 +139,7 @@ final class RandomRunsTest {
         int place = number(6);
         int way = number(2);
         String of = "(" + person + ", " + other + ", " + couple + ", " + row + ", " + place + "; " + what + ")";
-        switch (below(8)) {
+        switch (draw.below(8)) {
             case 0:
                 same("personOf" + of, () -> program.personOf(person, what), () -> oracle.personOf(person, what));
                 break;
