@@ -4,13 +4,19 @@ import java.util.function.Supplier;
 final class Due {
     private int checked;
     private int wrong;
+    private String sentence = "";
+
+    /** The sentence of the document that the answers from here on are held against. */
+    void sentence(String said) {
+        sentence = said + " | ";
+    }
 
     void same(String what, Object got, Object want) {
         checked++;
         if (!want.equals(got)) {
             wrong++;
             if (wrong <= 40) {
-                System.out.println(what + " answered " + got + ", due is " + want);
+                System.out.println(sentence + what + " answered " + got + ", due is " + want);
             }
         }
     }

@@ -41,72 +41,10 @@ final class PromisesTest {
         DUE.end();
     }
 
-    private static ChronicleRows withPeople(int... rows) {
-        ChronicleRows made = new ChronicleRows();
-        for (int row : rows) {
-            made.person(row);
-        }
-        return made;
-    }
-
-    /**
-     * Row 0: 0 1 2 3; couples 0: 0 and 1, middle 1; 1: 2 and 3, middle 5; 2: 0
-     * and 2, middle 2. Row 1: 4 of couple 1, 5 of couple 0, 6 of couple 2, 7
-     * of couple 0, so the middles from the left are 5 1 2 1: 4 crossings.
-     */
-    private static ChronicleRows tangled() {
-        ChronicleRows made = withPeople(0, 0, 0, 0);
-        made.marry(0, 1);
-        made.marry(3, 2);
-        made.marry(2, 0);
-        made.child(1);
-        made.child(0);
-        made.child(2);
-        made.child(0);
-        return made;
-    }
-
-    /**
-     * Row 0: 0 and 1, couple 0, and 2; couple 2: 1 and 2. Row 1: 3, 4 of
-     * couple 0 and 5 without parents; couple 1: 4 and 5; 9 of couple 2. Row 2:
-     * 6 of couple 1, and 7; couple 3: 6 and 7. Row 3: 8 of couple 3.
-     */
-    private static ChronicleRows family() {
-        ChronicleRows made = withPeople(0, 0, 0);
-        made.marry(0, 1);
-        made.child(0);
-        made.child(0);
-        made.person(1);
-        made.marry(5, 4);
-        made.marry(1, 2);
-        made.child(1);
-        made.person(2);
-        made.marry(6, 7);
-        made.child(3);
-        made.child(2);
-        return made;
-    }
-
-    /** 20 people, and 10 couples of rows 0 and 1. */
-    private static ChronicleRows full() {
-        ChronicleRows made = withPeople(0, 0, 0, 0, 0, 0, 1, 1, 1, 1, 1, 1, 2, 2, 2, 2, 2, 2, 3, 3);
-        for (int person = 0; person < 5; person++) {
-            made.marry(person, person + 1);
-            made.marry(person + 6, person + 7);
-        }
-        return made;
-    }
-
     private static void order(String when, ChronicleRows of, int row, int... people) {
         for (int place = 0; place < 6; place++) {
             int want = place < people.length ? people[place] : NONE;
             DUE.same(when + ": at(" + row + ", " + place + ")", of.at(row, place), want);
-        }
-    }
-
-    private static void type(ChronicleRows into, String text) {
-        for (int index = 0; index < text.length(); index++) {
-            into.append(text.charAt(index));
         }
     }
 
@@ -141,14 +79,14 @@ final class PromisesTest {
             DUE.thrown("person(" + wrong + ")", NO_SUCH, () -> x.person(wrong));
         }
         DUE.same("person: none refused by throwing", x.count(7), 1);
-        ChronicleRows all = full();
+        ChronicleRows all = Made.full();
         DUE.same("20 people", all.count(0), 20);
         DUE.same("person(3), there are 20", all.person(3), NONE);
         DUE.same("person: refused as there are 20", all.count(7), 1);
     }
 
     private static void marry() {
-        ChronicleRows x = withPeople(0, 0, 0, 1, 3, 3, 0, 2, 2);
+        ChronicleRows x = Made.withPeople(0, 0, 0, 1, 3, 3, 0, 2, 2);
         DUE.same("marry(1, 0)", x.marry(1, 0), 10);
         DUE.same("marry, a couple already", x.marry(0, 1), 3);
         DUE.same("marry, of two rows", x.marry(0, 3), 2);
@@ -168,7 +106,7 @@ final class PromisesTest {
             DUE.thrown("marry(" + wrong + ", twice)", NO_SUCH, () -> x.marry(wrong, wrong));
         }
         DUE.same("marry: none refused by throwing", x.count(7), 7);
-        ChronicleRows all = full();
+        ChronicleRows all = Made.full();
         DUE.same("10 couples", all.count(1), 10);
         DUE.same("marry, there are 10", all.marry(12, 13), 1);
         DUE.same("marry, 10 ahead of two rows", all.marry(0, 12), 1);
@@ -177,7 +115,7 @@ final class PromisesTest {
     }
 
     private static void child() {
-        ChronicleRows x = withPeople(2, 2, 0, 0);
+        ChronicleRows x = Made.withPeople(2, 2, 0, 0);
         x.marry(0, 1);
         x.marry(2, 3);
         DUE.same("child(0)", x.child(0), 4);
@@ -194,14 +132,14 @@ final class PromisesTest {
             DUE.thrown("child(" + wrong + ")", NO_SUCH, () -> x.child(wrong));
         }
         DUE.same("child: none refused by throwing", x.count(7), 1);
-        ChronicleRows all = withPeople(2, 2, 0, 0, 0, 0, 0, 0, 1, 1, 1, 1, 1, 1, 3, 3, 3, 3, 3, 2);
+        ChronicleRows all = Made.withPeople(2, 2, 0, 0, 0, 0, 0, 0, 1, 1, 1, 1, 1, 1, 3, 3, 3, 3, 3, 2);
         all.marry(0, 1);
         DUE.same("child(0), there are 20", all.child(0), NONE);
         DUE.same("child: refused as there are 20", all.count(7), 1);
     }
 
     private static void swap() {
-        ChronicleRows x = tangled();
+        ChronicleRows x = Made.tangled();
         DUE.same("swap(1, 0)", x.swap(1, 0), 99);
         order("swap", x, 1, 5, 4, 6, 7);
         DUE.same("swap: place of 5", x.personOf(5, 1), 0);
@@ -222,7 +160,7 @@ final class PromisesTest {
     }
 
     private static void byParents() {
-        ChronicleRows x = tangled();
+        ChronicleRows x = Made.tangled();
         x.person(1);
         DUE.same("byParents(1)", x.byParents(1), 3);
         order("byParents", x, 1, 5, 7, 6, 4, 8);
@@ -232,7 +170,7 @@ final class PromisesTest {
         x.swap(1, 3);
         DUE.same("byParents, of the same middle by the places", x.byParents(1), 2);
         order("byParents", x, 1, 7, 5, 6, 4, 8);
-        ChronicleRows y = withPeople(1, 1, 0, 0);
+        ChronicleRows y = Made.withPeople(1, 1, 0, 0);
         y.marry(2, 3);
         y.child(0);
         y.swap(1, 0);
@@ -246,7 +184,7 @@ final class PromisesTest {
     }
 
     private static void untangle() {
-        ChronicleRows x = tangled();
+        ChronicleRows x = Made.tangled();
         DUE.same("untangle(1)", x.untangle(1), 0);
         order("untangle", x, 1, 5, 7, 6, 4);
         DUE.same("untangle: the place of 5", x.personOf(5, 1), 0);
@@ -255,7 +193,7 @@ final class PromisesTest {
         DUE.same("untangle(1), the first one by numbers", x.untangle(1), 0);
         order("untangle", x, 1, 5, 7, 6, 4);
         // 8 of 4 and 5, then 9 of 6 and 7: as 5 7 6 4 both have the middle 3, so that these do not cross either.
-        ChronicleRows y = tangled();
+        ChronicleRows y = Made.tangled();
         y.marry(4, 5);
         y.marry(6, 7);
         y.child(3);
@@ -263,14 +201,14 @@ final class PromisesTest {
         DUE.same("untangle(2)", y.untangle(2), 0);
         DUE.same("untangle(1), lines to it and from it", y.untangle(1), 0);
         order("untangle of both", y, 1, 5, 7, 6, 4);
-        ChronicleRows z = withPeople(3, 3, 3);
+        ChronicleRows z = Made.withPeople(3, 3, 3);
         z.swap(3, 0);
         z.swap(3, 1);
         DUE.same("untangle(3), without lines", z.untangle(3), 0);
         order("untangle", z, 3, 0, 1, 2);
         DUE.same("untangle(0), an empty row", z.untangle(0), 0);
         // Each child of a lesser middle than the one before: 9 8 6 4 2 1. Only the last of all orders has no crossing.
-        ChronicleRows falling = withPeople(0, 0, 0, 0, 0, 0);
+        ChronicleRows falling = Made.withPeople(0, 0, 0, 0, 0, 0);
         int[][] couples = {{4, 5}, {3, 5}, {2, 4}, {1, 3}, {0, 2}, {0, 1}};
         for (int couple = 0; couple < 6; couple++) {
             falling.marry(couples[couple][0], couples[couple][1]);
@@ -304,7 +242,7 @@ final class PromisesTest {
 
     private static void error(String text, int want) {
         ChronicleRows x = new ChronicleRows();
-        type(x, text);
+        Made.type(x, text);
         DUE.same("firstError of " + text, x.firstError(), want);
         DUE.same("firstError leaves the buffer", x.clearBuffer(), text.length());
     }
@@ -326,7 +264,7 @@ final class PromisesTest {
     }
 
     private static void runs(ChronicleRows x, String text, int done) {
-        type(x, text);
+        Made.type(x, text);
         DUE.same("run of " + text, x.run(), done);
         DUE.same("run of " + text + " clears the buffer", x.clearBuffer(), 0);
     }
@@ -354,12 +292,12 @@ final class PromisesTest {
         DUE.same("run: a person is refused", x.count(7), 2);
         runs(x, "^0;^0;^0;^0;^0;^0;^0;0", 6);
         DUE.same("run: a child is refused", x.count(7), 3);
-        runs(full(), "+12&13", 0);
+        runs(Made.full(), "+12&13", 0);
         ChronicleRows y = new ChronicleRows();
         runs(y, "1;1;1;1;1;1;2;2;2;2;2;2;3;3;3;3;3;3;0;0;+18&19;+0&19", 21);
         DUE.same("run: numbers of two signs", y.coupleOf(0, 0), 18);
         for (String bad : new String[] {"", "0;", "4", "+", "+0", "+1", "+10", "+0&", "+1&", "^", "+0&1;", "+0&01"}) {
-            type(y, bad);
+            Made.type(y, bad);
             int saved = y.count(8);
             DUE.thrown("run of " + bad, WRONG, y::run);
             DUE.same("run of " + bad + " saves nothing", y.count(8), saved);
@@ -369,7 +307,7 @@ final class PromisesTest {
     }
 
     private static void keepAndGoBack() {
-        ChronicleRows x = withPeople(0, 0, 3);
+        ChronicleRows x = Made.withPeople(0, 0, 3);
         x.marry(0, 2);
         DUE.same("keep(0)", x.keep(0), 3);
         x.marry(0, 1);
@@ -381,7 +319,7 @@ final class PromisesTest {
         DUE.thrown("goBack(2)", WRONG, () -> x.goBack(2));
         DUE.thrown("goBack(-1)", WRONG, () -> x.goBack(-1));
         x.marry(0, 2);
-        type(x, "0;0");
+        Made.type(x, "0;0");
         DUE.same("goBack(0)", x.goBack(0), 3);
         DUE.same("goBack(0): couples", x.count(1), 0);
         DUE.same("goBack(0): refused", x.count(7), 1);
@@ -419,7 +357,7 @@ final class PromisesTest {
         order("undo, the oldest ones were dropped", x, 0, 0, 1, 2);
         x.marry(0, 1);
         x.swap(0, 0);
-        type(x, "^0");
+        Made.type(x, "^0");
         x.undo();
         order("undo of swap", x, 0, 0, 1, 2);
         DUE.same("undo leaves the buffer", x.firstError(), 2);
@@ -437,13 +375,13 @@ final class PromisesTest {
             x.undo();
         }
         x.clearBuffer();
-        type(x, "^9");
+        Made.type(x, "^9");
         call.run();
         DUE.same(what + ": saved states", x.count(8), due ? 1 : 0);
     }
 
     private static void undoableCalls() {
-        ChronicleRows x = full();
+        ChronicleRows x = Made.full();
         x.keep(0);
         saves("person, refused", x, () -> x.person(0), true);
         saves("marry, refused", x, () -> x.marry(0, 1), true);
@@ -456,7 +394,7 @@ final class PromisesTest {
     }
 
     private static void callsThatSaveNothing() {
-        ChronicleRows x = full();
+        ChronicleRows x = Made.full();
         x.keep(0);
         saves("keep", x, () -> x.keep(0), false);
         saves("append", x, () -> x.append('0'), false);
@@ -481,7 +419,7 @@ final class PromisesTest {
     }
 
     private static void personOf() {
-        ChronicleRows x = family();
+        ChronicleRows x = Made.family();
         numbersOf("the one who begins", x, 0, 0, 0, NONE, 1, 2, 4, 0);
         numbersOf("a double", x, 1, 0, 1, NONE, 2, 3, 5, 0);
         numbersOf("a child", x, 4, 1, 1, 0, 1, 1, 2, 2);
@@ -490,7 +428,7 @@ final class PromisesTest {
         numbersOf("the last one", x, 8, 3, 0, 3, 0, 0, 0, 6);
         numbersOf("of the second couple", x, 9, 1, 3, 2, 0, 0, 0, 2);
         // Both parents of 6 descend from 0 and 1: these count once, and so does 6.
-        ChronicleRows kin = withPeople(0, 0);
+        ChronicleRows kin = Made.withPeople(0, 0);
         kin.marry(0, 1);
         kin.child(0);
         kin.child(0);
@@ -508,7 +446,7 @@ final class PromisesTest {
     }
 
     private static void coupleOf() {
-        ChronicleRows x = family();
+        ChronicleRows x = Made.family();
         x.marry(3, 4);
         x.swap(1, 2);
         int[][] want = {{0, 1, 0, 1, 2, 0}, {4, 5, 1, 4, 1, 0}, {1, 2, 0, 3, 1, 0}, {6, 7, 2, 1, 1, 0}, {3, 4, 1, 1, 0, 2}};
@@ -525,7 +463,7 @@ final class PromisesTest {
             DUE.thrown("coupleOf(" + wrong + ", 6)", NO_SUCH, () -> x.coupleOf(wrong, 6));
         }
         // Half kin: 3 of 0 and 1, 4 of 1 and 2, have only 1 in common.
-        ChronicleRows half = withPeople(0, 0, 0);
+        ChronicleRows half = Made.withPeople(0, 0, 0);
         half.marry(0, 1);
         half.marry(1, 2);
         half.child(0);
@@ -535,7 +473,7 @@ final class PromisesTest {
     }
 
     private static void at() {
-        ChronicleRows x = tangled();
+        ChronicleRows x = Made.tangled();
         order("at", x, 0, 0, 1, 2, 3);
         order("at", x, 1, 4, 5, 6, 7);
         order("at", x, 2);
@@ -550,8 +488,8 @@ final class PromisesTest {
     }
 
     private static void crossings() {
-        ChronicleRows x = tangled();
-        ChronicleRows y = family();
+        ChronicleRows x = Made.tangled();
+        ChronicleRows y = Made.family();
         for (int what = 0; what <= 1; what++) {
             int way = what;
             DUE.same("crossings(0), by " + way, x.crossings(0, way), 0);
@@ -567,7 +505,7 @@ final class PromisesTest {
             DUE.thrown("crossings(0, " + wrong + ")", WRONG, () -> x.crossings(0, wrong));
         }
         // Of the same middle: couples of 0 and 3, and of 1 and 2, have the middle 3.
-        ChronicleRows z = withPeople(0, 0, 0, 0);
+        ChronicleRows z = Made.withPeople(0, 0, 0, 0);
         z.marry(0, 3);
         z.marry(1, 2);
         z.child(1);
@@ -584,14 +522,14 @@ final class PromisesTest {
     }
 
     private static void count() {
-        ChronicleRows x = tangled();
+        ChronicleRows x = Made.tangled();
         counts("tangled", x, 8, 3, 4, 4, 4, 2, 0, 0, 6);
         x.marry(5, 7);
         x.marry(4, 5);
         x.marry(0, 3);
         // Of 5 and 7 the ancestors are the same two; 4 is of 2 and 3, 5 of 0 and 1.
         counts("tangled, with kin", x, 8, 5, 4, 4, 4, 3, 1, 1, 6);
-        ChronicleRows y = family();
+        ChronicleRows y = Made.family();
         // Middles and places: 1 and 0, 1 and 1, 3 and 3; 3 and 0; 1 and 0: all bent.
         counts("family", y, 10, 4, 5, 0, 5, 1, 0, 0, 6);
         y.person(0);
@@ -611,14 +549,14 @@ final class PromisesTest {
     }
 
     private static void leastOfRows() {
-        ChronicleRows x = tangled();
+        ChronicleRows x = Made.tangled();
         // The children are of the couples 1 0 2 0, from the left, so that no
         // crossing needs 0 and 1 and 0 and 2 to have one middle, which can't be;
         // as 3 2 1 0 the row 0 gives the middles 1 5 4 5: one crossing.
         leasts("tangled", x, 1, 0, 0, 0);
         order("least changes nothing", x, 0, 0, 1, 2, 3);
         order("least changes nothing", x, 1, 4, 5, 6, 7);
-        leasts("without lines", full(), 0, 0, 0, 0);
+        leasts("without lines", Made.full(), 0, 0, 0, 0);
         ChronicleRows y = new ChronicleRows();
         leasts("empty", y, 0, 0, 0, 0);
         for (int wrong : new int[] {-1, 2, FAR, FAR_BELOW}) {
@@ -632,7 +570,7 @@ final class PromisesTest {
 
     /** Lines to a row and from it that can't both be without crossings. */
     private static void leftOffOrders() {
-        ChronicleRows x = withPeople(0, 0, 0, 0);
+        ChronicleRows x = Made.withPeople(0, 0, 0, 0);
         x.marry(0, 1);
         x.marry(2, 3);
         x.child(0);
@@ -659,7 +597,7 @@ final class PromisesTest {
         // From the left 5 1 2 1: each exchange in the row 1 takes one crossing
         // off but the one of 5 and 6; the first is that of the places 0 and 1.
         // In the row 0: 1 0 2 3: 5 1 3 1, 4; 0 2 1 3: 4 2 1 2, 4; 0 1 3 2: 5 1 3 1, 4.
-        ChronicleRows x = tangled();
+        ChronicleRows x = Made.tangled();
         DUE.same("bestSwap", x.bestSwap(), 10);
         order("bestSwap changes nothing", x, 1, 4, 5, 6, 7);
         x.swap(1, 0);
@@ -667,7 +605,7 @@ final class PromisesTest {
         x.untangle(1);
         DUE.same("bestSwap, without crossings", x.bestSwap(), NONE);
         // Middles from the left 5 5 1: only the exchange of the places 1 and 2 takes a crossing off.
-        ChronicleRows y = withPeople(0, 0, 0, 0);
+        ChronicleRows y = Made.withPeople(0, 0, 0, 0);
         y.marry(0, 1);
         y.marry(2, 3);
         y.child(1);
@@ -675,7 +613,7 @@ final class PromisesTest {
         y.child(0);
         DUE.same("bestSwap, the best one", y.bestSwap(), 11);
         // Middles from the left 2 1: the exchange of 1 and 2 and that of the children both leave no crossing.
-        ChronicleRows z = withPeople(0, 0, 0);
+        ChronicleRows z = Made.withPeople(0, 0, 0);
         z.marry(0, 1);
         z.marry(0, 2);
         z.child(1);
@@ -690,7 +628,7 @@ final class PromisesTest {
     }
 
     private static void nearness() {
-        ChronicleRows x = family();
+        ChronicleRows x = Made.family();
         near(x, 0, 0, 0);
         near(x, 8, 8, 0);
         near(x, 0, 1, NONE);
@@ -705,7 +643,7 @@ final class PromisesTest {
         near(x, 7, 6, NONE);
         near(x, 2, 8, NONE);
         // 4 and 5 have the ancestors 0 to 3 in common: the nearest ones count.
-        ChronicleRows kin = withPeople(0, 0);
+        ChronicleRows kin = Made.withPeople(0, 0);
         kin.marry(0, 1);
         kin.child(0);
         kin.child(0);
@@ -722,7 +660,7 @@ final class PromisesTest {
     }
 
     private static void straightShare() {
-        ChronicleRows x = withPeople(0, 0, 0);
+        ChronicleRows x = Made.withPeople(0, 0, 0);
         DUE.same("straightShare without lines", x.straightShare(), 1.0);
         x.marry(0, 2);
         x.child(0);
@@ -735,75 +673,41 @@ final class PromisesTest {
         x.swap(0, 1);
         // Now 0 and 2 have the middle 1, so that no line is straight.
         DUE.same("straightShare, none of three", x.straightShare(), 0.0);
-        ChronicleRows y = withPeople(0, 0, 0, 1);
+        ChronicleRows y = Made.withPeople(0, 0, 0, 1);
         y.marry(0, 2);
         y.child(0);
         DUE.same("straightShare, all", y.straightShare(), 1.0);
     }
 
-    /** The list of the document, by the answers of the object. */
-    private static long hashByAnswers(ChronicleRows x, int inSlots, String text) {
-        long hash = 3727;
-        for (int what = 0; what <= 8; what++) {
-            hash = 31 * hash + x.count(what);
-        }
-        for (int person = 0; person < x.count(0); person++) {
-            for (int what = 0; what <= 6; what++) {
-                hash = 31 * hash + x.personOf(person, what);
-            }
-        }
-        for (int couple = 0; couple < x.count(1); couple++) {
-            for (int what = 0; what <= 5; what++) {
-                hash = 31 * hash + x.coupleOf(couple, what);
-            }
-        }
-        for (int row = 0; row < 4; row++) {
-            for (int place = 0; place <= 5; place++) {
-                hash = 31 * hash + x.at(row, place);
-            }
-            hash = 31 * (31 * hash + x.crossings(row, 0)) + x.crossings(row, 1);
-        }
-        for (int row = 0; row < 4; row++) {
-            hash = 31 * (31 * hash + x.least(row, 0)) + x.least(row, 1);
-        }
-        hash = 31 * hash + x.bestSwap();
-        for (int person = 0; person < x.count(0); person++) {
-            hash = 31 * hash + x.nearness(0, person);
-        }
-        hash = 31 * hash + Double.doubleToLongBits(x.straightShare());
-        hash = 31 * (31 * hash + (inSlots & 1)) + (inSlots >> 1);
-        hash = 31 * hash + text.length();
-        for (int index = 0; index < text.length(); index++) {
-            hash = 31 * hash + text.charAt(index);
-        }
-        return hash;
-    }
-
     private static void digest() {
         ChronicleRows x = new ChronicleRows();
         DUE.same("digest of an empty chronicle", x.digest(), EMPTY_DIGEST);
-        DUE.same("digest of an empty chronicle", x.digest(), hashByAnswers(x, 0, ""));
-        type(x, "0;~");
+        DUE.same("digest of an empty chronicle", x.digest(), Hash.ofAnswers(x, 0, ""));
+        Made.type(x, "0;~");
         x.keep(1);
-        DUE.same("digest with a text and a slot", x.digest(), hashByAnswers(x, 2, "0;~"));
+        DUE.same("digest with a text and a slot", x.digest(), Hash.ofAnswers(x, 2, "0;~"));
         x.keep(0);
-        DUE.same("digest with both slots", x.digest(), hashByAnswers(x, 3, "0;~"));
-        for (ChronicleRows each : new ChronicleRows[] {tangled(), family(), full()}) {
+        DUE.same("digest with both slots", x.digest(), Hash.ofAnswers(x, 3, "0;~"));
+        for (ChronicleRows each : new ChronicleRows[] {Made.tangled(), Made.family(), Made.full()}) {
             long hash = each.digest();
-            DUE.same("digest", hash, hashByAnswers(each, 0, ""));
+            DUE.same("digest", hash, Hash.ofAnswers(each, 0, ""));
             DUE.same("digest once more", each.digest(), hash);
+        }
+        for (ChronicleRows each : new ChronicleRows[] {Made.tangled(), Made.family(), Made.full()}) {
             each.byParents(1);
-            DUE.same("digest by parents", each.digest(), hashByAnswers(each, 0, ""));
+            DUE.same("digest by parents", each.digest(), Hash.ofAnswers(each, 0, ""));
         }
         // Shares of many lines: 1 of n, and so on, each with its own bits.
-        ChronicleRows y = withPeople(0, 0, 0, 0, 0, 0);
-        y.marry(0, 5);
-        y.marry(1, 3);
-        y.marry(2, 3);
-        for (int times = 0; times < 6; times++) {
-            y.child(times % 3);
-            y.byParents(1);
-            DUE.same("digest of a share", y.digest(), hashByAnswers(y, 0, ""));
+        for (int children = 1; children <= 6; children++) {
+            ChronicleRows y = Made.withPeople(0, 0, 0, 0, 0, 0);
+            y.marry(0, 5);
+            y.marry(1, 3);
+            y.marry(2, 3);
+            for (int child = 0; child < children; child++) {
+                y.child(child % 3);
+                y.byParents(1);
+            }
+            DUE.same("digest of a share", y.digest(), Hash.ofAnswers(y, 0, ""));
         }
     }
 

@@ -43,7 +43,11 @@ final class RandomRunsTest {
         return kind == 2 || bound < 1 ? Math.max(bound, 0) : draw.below(bound);
     }
 
+    /** No call is made behind the last one that is promised: what it answers is free. */
     private void same(String what, Supplier<Object> ofProgram, Supplier<Object> ofOracle) {
+        if (calls >= CALLS) {
+            return;
+        }
         calls++;
         DUE.alike("run " + run + ", call " + calls + ": " + what, ofProgram, ofOracle);
     }
