@@ -11,6 +11,16 @@ final class Due {
         sentence = said + " | ";
     }
 
+    /** One part of a test: if it ends by an exception, that is wrong, and the other parts go on. */
+    void part(Runnable part) {
+        sentence = "";
+        try {
+            part.run();
+        } catch (RuntimeException e) {
+            same("the part", "ended by " + e + " at " + e.getStackTrace()[0], "came to its end");
+        }
+    }
+
     void same(String what, Object got, Object want) {
         checked++;
         if (!want.equals(got)) {

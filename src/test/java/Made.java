@@ -61,6 +61,36 @@ final class Made {
         return made;
     }
 
+    /**
+     * Row 0: 0 and 1, couple 0; 2 and 3, couple 1. Row 1: 4 and 5 of the
+     * middle 1, who are couple 3; 6 and 7 of the middle 5, who are couple 2.
+     */
+    static ChronicleRows twoFamilies() {
+        ChronicleRows made = withPeople(0, 0, 0, 0);
+        made.marry(0, 1);
+        made.marry(2, 3);
+        for (int child = 0; child < 4; child++) {
+            made.child(child / 2);
+        }
+        made.marry(6, 7);
+        made.marry(4, 5);
+        return made;
+    }
+
+    /**
+     * From the row 1 of two families: three children of 6 and 7, then two of 4
+     * and 5. With 4 and 5 to the left 6 pairs from it cross, with 6 and 7 to
+     * the left 4 pairs to it; as 4 6 7 5 both couples have the middle 3, and
+     * only 5 crosses 6 and 7: 2, and no order has less.
+     */
+    static ChronicleRows knot() {
+        ChronicleRows made = twoFamilies();
+        for (int child = 0; child < 5; child++) {
+            made.child(child < 3 ? 2 : 3);
+        }
+        return made;
+    }
+
     /** 20 people, and 10 couples of rows 0 and 1. */
     static ChronicleRows full() {
         ChronicleRows made = withPeople(0, 0, 0, 0, 0, 0, 1, 1, 1, 1, 1, 1, 2, 2, 2, 2, 2, 2, 3, 3);

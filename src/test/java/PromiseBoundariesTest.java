@@ -19,40 +19,40 @@ final class PromiseBoundariesTest {
     }
 
     public static void main(String[] args) {
-        newObject();
-        objectsApart();
-        personReturns();
-        marryReturns();
-        marryFirstReason();
-        marryThrows();
-        childReturns();
-        childThrows();
-        swapPlaces();
-        swapReturns();
-        byParentsReturns();
-        untangleFirstOrder();
-        untangleReturns();
-        personRange();
-        personWhat();
-        personNumbers();
-        coupleRange();
-        coupleWhat();
-        coupleNumbers();
-        atPlaces();
-        crossingsWhat();
-        crossingsOneByOne();
-        countWhat();
-        countNumbers();
-        leastWhat();
-        leastNumbers();
-        bestSwapNone();
-        bestSwapLeast();
-        nearnessRange();
-        nearnessNumbers();
-        straightShare();
-        digestOfLeastAndMost();
-        digestOverflows();
-        digestValues();
+        DUE.part(PromiseBoundariesTest::newObject);
+        DUE.part(PromiseBoundariesTest::objectsApart);
+        DUE.part(PromiseBoundariesTest::personReturns);
+        DUE.part(PromiseBoundariesTest::marryReturns);
+        DUE.part(PromiseBoundariesTest::marryFirstReason);
+        DUE.part(PromiseBoundariesTest::marryThrows);
+        DUE.part(PromiseBoundariesTest::childReturns);
+        DUE.part(PromiseBoundariesTest::childThrows);
+        DUE.part(PromiseBoundariesTest::swapPlaces);
+        DUE.part(PromiseBoundariesTest::swapReturns);
+        DUE.part(PromiseBoundariesTest::byParentsReturns);
+        DUE.part(PromiseBoundariesTest::untangleFirstOrder);
+        DUE.part(PromiseBoundariesTest::untangleReturns);
+        DUE.part(PromiseBoundariesTest::personRange);
+        DUE.part(PromiseBoundariesTest::personWhat);
+        DUE.part(PromiseBoundariesTest::personNumbers);
+        DUE.part(PromiseBoundariesTest::coupleRange);
+        DUE.part(PromiseBoundariesTest::coupleWhat);
+        DUE.part(PromiseBoundariesTest::coupleNumbers);
+        DUE.part(PromiseBoundariesTest::atPlaces);
+        DUE.part(PromiseBoundariesTest::crossingsWhat);
+        DUE.part(PromiseBoundariesTest::crossingsOneByOne);
+        DUE.part(PromiseBoundariesTest::countWhat);
+        DUE.part(PromiseBoundariesTest::countNumbers);
+        DUE.part(PromiseBoundariesTest::leastWhat);
+        DUE.part(PromiseBoundariesTest::leastNumbers);
+        DUE.part(PromiseBoundariesTest::bestSwapNone);
+        DUE.part(PromiseBoundariesTest::bestSwapLeast);
+        DUE.part(PromiseBoundariesTest::nearnessRange);
+        DUE.part(PromiseBoundariesTest::nearnessNumbers);
+        DUE.part(PromiseBoundariesTest::straightShare);
+        DUE.part(PromiseBoundariesTest::digestOfLeastAndMost);
+        DUE.part(PromiseBoundariesTest::digestOverflows);
+        DUE.part(PromiseBoundariesTest::digestValues);
         DUE.end();
     }
 
@@ -358,36 +358,24 @@ final class PromiseBoundariesTest {
         }
     }
 
-    /** As leastNumbers(): to the row 1 and from it no order is without crossings. */
-    private static ChronicleRows knot() {
-        ChronicleRows made = Made.withPeople(0, 0, 0, 0);
-        made.marry(0, 1);
-        made.marry(2, 3);
-        made.child(0);
-        made.child(0);
-        made.child(1);
-        made.child(1);
-        made.marry(6, 7);
-        made.marry(4, 5);
-        made.child(2);
-        made.child(2);
-        made.child(2);
-        made.child(3);
-        made.child(3);
-        return made;
-    }
-
     private static void untangleReturns() {
         DUE.sentence("7: Returns the crossings of the lines to it and from it then, together");
-        ChronicleRows x = knot();
+        ChronicleRows x = Made.knot();
         DUE.same("untangle(1)", x.untangle(1), 2);
         order(x, 1, 4, 6, 7, 5);
         DUE.same("crossings to it", x.crossings(1, 0), 2);
         DUE.same("crossings from it", x.crossings(2, 0), 0);
         DUE.same("untangle(1) again", x.untangle(1), 2);
+        // As 4 5 6 7 no lines to it cross, and one pair from it does: children of 6 and 7, then of 4 and 5.
+        ChronicleRows from = Made.twoFamilies();
+        from.child(2);
+        from.child(3);
+        DUE.same("untangle(1), where lines from it cross", from.untangle(1), 1);
+        DUE.same("crossings to it", from.crossings(1, 0), 0);
+        DUE.same("crossings from it", from.crossings(2, 0), 1);
         // Crossings between other rows are not in it.
         DUE.same("untangle(3)", x.untangle(3), 0);
-        ChronicleRows y = knot();
+        ChronicleRows y = Made.knot();
         y.swap(1, 0);
         y.swap(1, 1);
         y.swap(1, 2);
@@ -465,6 +453,7 @@ final class PromiseBoundariesTest {
         DUE.same("all ancestors of 7", x.personOf(7, 6), 2);
         DUE.same("all ancestors of 8, whose parents have the same ones", x.personOf(8, 6), 4);
         DUE.same("all ancestors of 19", x.personOf(19, 6), 6);
+        DUE.same("all ancestors of 6 of a family", Made.family().personOf(6, 6), 4);
         DUE.same("children of 0", x.personOf(0, 4), 6);
         DUE.same("children of 3, in no couple", x.personOf(3, 4), 0);
         // A double with three children of one couple and two of the other one.
@@ -684,9 +673,7 @@ final class PromiseBoundariesTest {
 
     private static void leastNumbers() {
         DUE.sentence("20: the least crossings, of none and of several");
-        // To the row 1: 4 and 5 have the middle 1, 6 and 7 have 5. From it: three of 6 and 7, then two of 4 and 5.
-        // With 4 and 5 to the left 6 pairs from it cross, with 6 and 7 to the left 4 to it; 2 as 4 6 7 5.
-        leasts(knot(), 0, 2, 0, 0);
+        leasts(Made.knot(), 0, 2, 0, 0);
         leasts(new ChronicleRows(), 0, 0, 0, 0);
         leasts(Made.withPeople(0, 1, 2, 3), 0, 0, 0, 0);
         leasts(Made.full(), 0, 0, 0, 0);
@@ -863,7 +850,7 @@ final class PromiseBoundariesTest {
         Made.type(x, text);
         hash("of a full chronicle", x, 3, text);
         hash("of 18 lines", descended(), 0, "");
-        hash("of crossings", knot(), 0, "");
+        hash("of crossings", Made.knot(), 0, "");
     }
 
     private static void digestOverflows() {
@@ -909,12 +896,29 @@ final class PromiseBoundariesTest {
         for (int number = 0; number < all.size(); number++) {
             hash("of chronicle " + number, all.get(number), inSlots[number], texts[number]);
         }
+        DUE.same("a little share", littleShare().straightShare(), 1.0 / 17.0);
+        hash("of a little share", littleShare(), 0, "");
         for (int children = 1; children <= 6; children++) {
             hash("of a share", sharing(children), 0, "");
             ChronicleRows laid = sharing(children);
             laid.byParents(1);
             hash("of another share", laid, 0, "");
         }
+    }
+
+    /** 17 lines, of which only that of 4, at the place 1 of the row 1, is straight. */
+    private static ChronicleRows littleShare() {
+        ChronicleRows made = Made.withPeople(0, 0, 0);
+        made.marry(0, 2);
+        for (int row = 0; row <= 2; row++) {
+            for (int times = 0; times < 6 && made.count(0) < 20; times++) {
+                made.child(row);
+            }
+            if (row < 2) {
+                made.marry(3 + 6 * row, 4 + 6 * row);
+            }
+        }
+        return made;
     }
 
     /** Up to six children of couples of the middles 5, 4 and 6. */

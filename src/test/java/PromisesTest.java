@@ -13,31 +13,31 @@ final class PromisesTest {
     }
 
     public static void main(String[] args) {
-        newObject();
-        person();
-        marry();
-        child();
-        swap();
-        byParents();
-        untangle();
-        appendAndClearBuffer();
-        firstError();
-        run();
-        keepAndGoBack();
-        undo();
-        undoableCalls();
-        callsThatSaveNothing();
-        personOf();
-        coupleOf();
-        at();
-        crossings();
-        count();
-        leastOfRows();
-        leftOffOrders();
-        bestSwap();
-        nearness();
-        straightShare();
-        digest();
+        DUE.part(PromisesTest::newObject);
+        DUE.part(PromisesTest::person);
+        DUE.part(PromisesTest::marry);
+        DUE.part(PromisesTest::child);
+        DUE.part(PromisesTest::swap);
+        DUE.part(PromisesTest::byParents);
+        DUE.part(PromisesTest::untangle);
+        DUE.part(PromisesTest::appendAndClearBuffer);
+        DUE.part(PromisesTest::firstError);
+        DUE.part(PromisesTest::run);
+        DUE.part(PromisesTest::keepAndGoBack);
+        DUE.part(PromisesTest::undo);
+        DUE.part(PromisesTest::undoableCalls);
+        DUE.part(PromisesTest::callsThatSaveNothing);
+        DUE.part(PromisesTest::personOf);
+        DUE.part(PromisesTest::coupleOf);
+        DUE.part(PromisesTest::at);
+        DUE.part(PromisesTest::crossings);
+        DUE.part(PromisesTest::count);
+        DUE.part(PromisesTest::leastOfRows);
+        DUE.part(PromisesTest::leftOffOrders);
+        DUE.part(PromisesTest::bestSwap);
+        DUE.part(PromisesTest::nearness);
+        DUE.part(PromisesTest::straightShare);
+        DUE.part(PromisesTest::digest);
         DUE.end();
     }
 
@@ -371,7 +371,7 @@ final class PromisesTest {
     }
 
     private static void saves(String what, ChronicleRows x, Runnable call, boolean due) {
-        while (x.count(8) > 0) {
+        for (int left = x.count(8); left > 0; left--) {
             x.undo();
         }
         x.clearBuffer();
@@ -570,24 +570,7 @@ final class PromisesTest {
 
     /** Lines to a row and from it that can't both be without crossings. */
     private static void leftOffOrders() {
-        ChronicleRows x = Made.withPeople(0, 0, 0, 0);
-        x.marry(0, 1);
-        x.marry(2, 3);
-        x.child(0);
-        x.child(0);
-        x.child(1);
-        x.child(1);
-        x.marry(6, 7);
-        x.marry(4, 5);
-        x.child(2);
-        x.child(2);
-        x.child(2);
-        x.child(3);
-        x.child(3);
-        // To the row 1: 4 and 5 have the middle 1, 6 and 7 the middle 5. From
-        // it: three children of 6 and 7, then two of 4 and 5. With 4 and 5 to
-        // the left 6 pairs from it cross, with 6 and 7 to the left 4 pairs to
-        // it; as 4 6 7 5 both couples have the middle 3, and 5 crosses 6 and 7.
+        ChronicleRows x = Made.knot();
         leasts("to and from", x, 0, 2, 0, 0);
         DUE.same("to and from: untangle(1)", x.untangle(1), 2);
         order("to and from", x, 1, 4, 6, 7, 5);

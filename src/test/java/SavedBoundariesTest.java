@@ -19,26 +19,27 @@ final class SavedBoundariesTest {
     }
 
     public static void main(String[] args) {
-        slots();
-        inPlaceOfTheOne();
-        noSnapshot();
-        keepReturns();
-        snapshotHolds();
-        snapshotIsNot();
-        snapshotStays();
-        undoableSaves();
-        undoableCountsOn();
-        savedIsNot();
-        restoresAndDrops();
-        nothingToRestore();
-        sixSavedStates();
-        oldestIsDropped();
-        othersSaveNothing();
-        looksChangeNothing();
-        exceptionsChangeNothing();
-        exceptionsOfOthers();
-        firstNamed();
-        constants();
+        DUE.part(SavedBoundariesTest::slots);
+        DUE.part(SavedBoundariesTest::inPlaceOfTheOne);
+        DUE.part(SavedBoundariesTest::noSnapshot);
+        DUE.part(SavedBoundariesTest::keepReturns);
+        DUE.part(SavedBoundariesTest::snapshotHolds);
+        DUE.part(SavedBoundariesTest::snapshotOfOthers);
+        DUE.part(SavedBoundariesTest::snapshotIsNot);
+        DUE.part(SavedBoundariesTest::snapshotStays);
+        DUE.part(SavedBoundariesTest::undoableSaves);
+        DUE.part(SavedBoundariesTest::undoableCountsOn);
+        DUE.part(SavedBoundariesTest::savedIsNot);
+        DUE.part(SavedBoundariesTest::restoresAndDrops);
+        DUE.part(SavedBoundariesTest::nothingToRestore);
+        DUE.part(SavedBoundariesTest::sixSavedStates);
+        DUE.part(SavedBoundariesTest::oldestIsDropped);
+        DUE.part(SavedBoundariesTest::othersSaveNothing);
+        DUE.part(SavedBoundariesTest::looksChangeNothing);
+        DUE.part(SavedBoundariesTest::exceptionsChangeNothing);
+        DUE.part(SavedBoundariesTest::exceptionsOfOthers);
+        DUE.part(SavedBoundariesTest::firstNamed);
+        DUE.part(SavedBoundariesTest::constants);
         DUE.end();
     }
 
@@ -167,6 +168,35 @@ final class SavedBoundariesTest {
         DUE.same("the next person", x.person(3), 10);
     }
 
+    /** The numbers of people and couples tell others here than there. */
+    private static void snapshotOfOthers() {
+        DUE.sentence("a snapshot is all: who came behind it has the same numbers");
+        ChronicleRows x = Made.withPeople(0, 0, 0, 1, 1);
+        x.keep(0);
+        x.marry(0, 1);
+        x.child(0);
+        x.person(1);
+        x.person(2);
+        x.keep(1);
+        List<Long> ofOne = looks(x);
+        x.goBack(0);
+        x.marry(4, 3);
+        x.person(3);
+        x.child(0);
+        x.person(2);
+        x.swap(2, 0);
+        DUE.same("another row of 5", x.personOf(5, 0), 3);
+        x.goBack(1);
+        DUE.same("all looks behind goBack", looks(x), ofOne);
+        x.undo();
+        DUE.same("undo: the row of 5", x.personOf(5, 0), 3);
+        DUE.same("undo: the row of 6", x.personOf(6, 0), 2);
+        DUE.same("undo: the parents of 5", x.personOf(5, 2), NONE);
+        DUE.same("undo: the parents of 6", x.personOf(6, 2), 0);
+        DUE.same("undo: the lesser one of the couple", x.coupleOf(0, 0), 3);
+        DUE.same("undo: the greater one of the couple", x.coupleOf(0, 1), 4);
+    }
+
     /** All looks but those at the buffer, the slots and the saved states. */
     private static List<Long> looks(ChronicleRows x) {
         List<Long> told = new ArrayList<>();
@@ -236,7 +266,7 @@ final class SavedBoundariesTest {
     /** The same chronicle, in slot 0 too, but with one saved state only. */
     private static ChronicleRows drained(ChronicleRows x) {
         x.keep(0);
-        while (x.count(8) > 0) {
+        for (int left = x.count(8); left > 0; left--) {
             x.undo();
         }
         x.goBack(0);
@@ -446,8 +476,9 @@ final class SavedBoundariesTest {
 
     private static void othersSaveNothing() {
         DUE.sentence("a method that is not marked \"undoable\" saves nothing");
-        ChronicleRows x = rich();
+        ChronicleRows x = Made.withPeople(0, 0, 1);
         int saved = x.count(8);
+        DUE.same("three calls of person", saved, 3);
         x.append('0');
         DUE.same("append", x.count(8), saved);
         x.clearBuffer();

@@ -14,30 +14,30 @@ final class TermBoundariesTest {
     }
 
     public static void main(String[] args) {
-        calls();
-        rows();
-        sixOfARow();
-        sixOfARowAsChildren();
-        places();
-        numbersOfPeople();
-        twentyPeople();
-        nobodyGoes();
-        tenCouples();
-        numbersOfCouples();
-        coupleOfOneRow();
-        coupleOnce();
-        doubles();
-        parents();
-        middles();
-        lines();
-        crossedLines();
-        notCrossedLines();
-        bentLines();
-        byParents();
-        byParentsOfSameMiddle();
-        byParentsThoseWithout();
-        leastToAndFrom();
-        leastOfAnyOrder();
+        DUE.part(TermBoundariesTest::calls);
+        DUE.part(TermBoundariesTest::rows);
+        DUE.part(TermBoundariesTest::sixOfARow);
+        DUE.part(TermBoundariesTest::sixOfARowAsChildren);
+        DUE.part(TermBoundariesTest::places);
+        DUE.part(TermBoundariesTest::numbersOfPeople);
+        DUE.part(TermBoundariesTest::twentyPeople);
+        DUE.part(TermBoundariesTest::nobodyGoes);
+        DUE.part(TermBoundariesTest::tenCouples);
+        DUE.part(TermBoundariesTest::numbersOfCouples);
+        DUE.part(TermBoundariesTest::coupleOfOneRow);
+        DUE.part(TermBoundariesTest::coupleOnce);
+        DUE.part(TermBoundariesTest::doubles);
+        DUE.part(TermBoundariesTest::parents);
+        DUE.part(TermBoundariesTest::middles);
+        DUE.part(TermBoundariesTest::lines);
+        DUE.part(TermBoundariesTest::crossedLines);
+        DUE.part(TermBoundariesTest::notCrossedLines);
+        DUE.part(TermBoundariesTest::bentLines);
+        DUE.part(TermBoundariesTest::byParents);
+        DUE.part(TermBoundariesTest::byParentsOfSameMiddle);
+        DUE.part(TermBoundariesTest::byParentsThoseWithout);
+        DUE.part(TermBoundariesTest::leastToAndFrom);
+        DUE.part(TermBoundariesTest::leastOfAnyOrder);
         DUE.end();
     }
 
@@ -542,16 +542,8 @@ final class TermBoundariesTest {
 
     private static void leastToAndFrom() {
         DUE.sentence("that the lines to it and the lines from it can have, together");
-        // To the row 1: 4 and 5 have the middle 1, 6 and 7 have 5. From it: a child of 6 and 7, then one of 4 and 5.
-        ChronicleRows x = Made.withPeople(0, 0, 0, 0);
-        x.marry(0, 1);
-        x.marry(2, 3);
-        x.child(0);
-        x.child(0);
-        x.child(1);
-        x.child(1);
-        x.marry(6, 7);
-        x.marry(4, 5);
+        // From the row 1 a child of 6 and 7, then one of 4 and 5.
+        ChronicleRows x = Made.twoFamilies();
         x.child(2);
         x.child(3);
         DUE.same("crossings to it", x.crossings(1, 0), 0);

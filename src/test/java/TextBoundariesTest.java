@@ -12,27 +12,27 @@ final class TextBoundariesTest {
     }
 
     public static void main(String[] args) {
-        codes();
-        sixtySigns();
-        clearBuffer();
-        emptyText();
-        oneOrMore();
-        digitOfRow();
-        numbersOfPeople();
-        leadingZeros();
-        signBetweenNumbers();
-        digitOfCouple();
-        otherSigns();
-        firstOfSeveral();
-        ofAnyLength();
-        runOfNoChronicle();
-        runOfOneAndOfMany();
-        runUpToARefusedPerson();
-        runUpToARefusedCouple();
-        runUpToARefusedChild();
-        runUpToAnException();
-        runAsOneCall();
-        runLeavesThePeople();
+        DUE.part(TextBoundariesTest::codes);
+        DUE.part(TextBoundariesTest::sixtySigns);
+        DUE.part(TextBoundariesTest::clearBuffer);
+        DUE.part(TextBoundariesTest::emptyText);
+        DUE.part(TextBoundariesTest::oneOrMore);
+        DUE.part(TextBoundariesTest::digitOfRow);
+        DUE.part(TextBoundariesTest::numbersOfPeople);
+        DUE.part(TextBoundariesTest::leadingZeros);
+        DUE.part(TextBoundariesTest::signBetweenNumbers);
+        DUE.part(TextBoundariesTest::digitOfCouple);
+        DUE.part(TextBoundariesTest::otherSigns);
+        DUE.part(TextBoundariesTest::firstOfSeveral);
+        DUE.part(TextBoundariesTest::ofAnyLength);
+        DUE.part(TextBoundariesTest::runOfNoChronicle);
+        DUE.part(TextBoundariesTest::runOfOneAndOfMany);
+        DUE.part(TextBoundariesTest::runUpToARefusedPerson);
+        DUE.part(TextBoundariesTest::runUpToARefusedCouple);
+        DUE.part(TextBoundariesTest::runUpToARefusedChild);
+        DUE.part(TextBoundariesTest::runUpToAnException);
+        DUE.part(TextBoundariesTest::runAsOneCall);
+        DUE.part(TextBoundariesTest::runLeavesThePeople);
         DUE.end();
     }
 
@@ -117,6 +117,8 @@ final class TextBoundariesTest {
         DUE.same("twice", x.clearBuffer(), 0);
         Made.type(x, "x".repeat(59));
         DUE.same("of 59 signs", x.clearBuffer(), 59);
+        Made.type(x, "x".repeat(60));
+        DUE.same("of 60 signs", x.clearBuffer(), 60);
         Made.type(x, "0");
         DUE.same("the signs of before are gone", x.firstError(), 1);
         DUE.same("the signs of before are gone", x.run(), 1);
@@ -138,6 +140,8 @@ final class TextBoundariesTest {
         whole("", false);
         whole("0", true);
         whole("0;0", true);
+        whole("+0&1", true);
+        whole("^0;+0&19;3", true);
         whole("0;", false);
         whole(";0", false);
         whole("0;;0", false);
@@ -268,6 +272,10 @@ final class TextBoundariesTest {
         DUE.same("run", x.run(), 8);
         DUE.same("the couple of a child", x.personOf(14, 2), 9);
         DUE.same("the row of a child", x.personOf(14, 0), 3);
+        DUE.same("the place of a child", x.personOf(14, 1), 0);
+        Made.type(x, "3;^9");
+        DUE.same("run again", x.run(), 2);
+        DUE.same("the place of a child, at the end", x.personOf(16, 1), 2);
         DUE.same("the child behind six people is refused", x.count(7), 1);
     }
 
